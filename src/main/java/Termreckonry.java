@@ -581,8 +581,9 @@ public final class Termreckonry {
                 return from;
             }
             int left = daysOutside;
-            for (int i = Math.max(from, 0) / WORD_BITS; i < words.length; i++) {
-                long free = ~words[i] & bitsOf(i, from, DAYS);
+            int first = Math.max(from, 0) / WORD_BITS;
+            for (int i = first; i < words.length; i++) {
+                long free = i == first ? ~words[i] & -1L << from % WORD_BITS : ~words[i];
                 int here = Long.bitCount(free);
                 if (here >= left) {
                     return i * WORD_BITS + bitBehind(free, left);
@@ -651,6 +652,7 @@ public final class Termreckonry {
         private Warrant firstWarrant;
         private Warrant lastWarrant;
         private Added firstAdded;
+        private Added unreadAdded;
         private Recall firstRecall;
         private Recall lastRecall;
         private int recalls;
@@ -859,8 +861,8 @@ public final class Termreckonry {
             int span = term.spanFrom(begin);
             neededDays = neededOf(span);
             releaseDay = releaseAfter(neededDays);
-            for (Added a = isLikeFixed() ? owner.firstAdded : null; a != null; a = a.next) {
-                if (keepsOn(a.day)) {
+            for (Added a = owner.firstAdded; a != null; a = a.next) {
+                if (isLikeFixed() && keepsOn(a.day)) {
                     neededDays = Math.min(neededDays + a.left, mostNeededOf(span));
                     releaseDay = releaseAfter(neededDays);
                 }
@@ -975,7 +977,7 @@ public final class Termreckonry {
             return freed != NEVER && day < licenceEnd;
         }
 
-        void meetMorning(Warrant w, int day) {
+        void passDay(Warrant w, int day, boolean away) {
             if (begun == NEVER && mayBegin(w, day)) {
                 begun = day;
                 span = w.term.spanFrom(day);
@@ -985,18 +987,15 @@ public final class Termreckonry {
                 freed = day;
                 licenceEnd = endOfLicence(w);
             }
-        }
-
-        void meetAdded(Warrant w, Added a) {
-            if (w.isLikeFixed() && runs()) {
-                needs = Math.min(needs + a.left, w.mostNeededOf(span));
-            }
-        }
-
-        void meetEvening(boolean away) {
             if (runs()) {
                 missed += away ? 1 : 0;
                 served += away ? 0 : 1;
+            }
+        }
+
+        void putAdded(Warrant w, Added a) {
+            if (w.isLikeFixed() && runs()) {
+                needs = Math.min(needs + a.left, w.mostNeededOf(span));
             }
         }
 
@@ -1043,6 +1042,7 @@ public final class Termreckonry {
         }
 
         private static void open(Person p) {
+            p.unreadAdded = p.firstAdded;
             for (Warrant w = p.firstWarrant; w != null; w = w.next) {
                 w.tally.open();
             }
@@ -1057,31 +1057,29 @@ public final class Termreckonry {
             boolean inPrison = false;
             boolean licensed = false;
             for (Warrant w = p.firstWarrant; w != null; w = w.next) {
-                w.tally.meetMorning(w, day);
+                w.tally.passDay(w, day, away);
                 inPrison = inPrison || w.tally.runs();
                 licensed = licensed || w.tally.licenses(day);
             }
-            meetAdded(p, day);
-            boolean recalled = meetRecalls(p, day, away);
-            for (Warrant w = p.firstWarrant; w != null; w = w.next) {
-                w.tally.meetEvening(away);
-            }
+            readAdded(p, day);
+            boolean recalled = passRecalls(p, day, away);
             if (inPrison || recalled) {
                 return Person.letter(inPrison, away);
             }
             return licensed ? 'l' : 'o';
         }
 
-        /** Only behind the morning: a release on this very day is not put off by days added on it. */
-        private static void meetAdded(Person p, int day) {
-            for (Added a = p.firstAdded; a != null && a.day <= day; a = a.next) {
-                for (Warrant w = p.firstWarrant; w != null && a.day == day; w = w.next) {
-                    w.tally.meetAdded(w, a);
+        /** To be called behind the releases of the day: days added on it do not put these off. */
+        private static void readAdded(Person p, int day) {
+            for (Added a = p.unreadAdded; a != null && a.day <= day; a = a.next) {
+                for (Warrant w = p.firstWarrant; w != null; w = w.next) {
+                    w.tally.putAdded(w, a);
                 }
+                p.unreadAdded = a.next;
             }
         }
 
-        private static boolean meetRecalls(Person p, int day, boolean away) {
+        private static boolean passRecalls(Person p, int day, boolean away) {
             boolean recalled = false;
             for (Recall r = p.firstRecall; r != null; r = r.next) {
                 if (r.day > day || r.clerksEnd) {

@@ -42,9 +42,9 @@ public final class CalendarTests {
         Check.is("2001", 366, () -> x.dayOf(2001, 1, 1));
         Check.is("last day", 19999, () -> x.dayOf(2054, 10, 3));
         int[][] wrong = {{2054, 10, 4}, {2054, 12, 31}, {1999, 12, 31}, {2055, 1, 1}, {2000, 0, 1}, {2000, 13, 1},
-            {2000, 1, 0}, {2000, 1, 32}, {2001, 2, 29}, {2000, 2, 30}, {2003, 4, 31}, {2003, 6, 31}, {2003, 9, 31},
+            {2000, 1, 0}, {2001, 1, 0}, {2000, 1, 32}, {2001, 2, 29}, {2000, 2, 30}, {2003, 4, 31}, {2003, 6, 31}, {2003, 9, 31},
             {2003, 11, 31}, {2003, 1, -1}, {2003, -1, 1}, {-2003, 1, 1}, {2003, Integer.MIN_VALUE, 1},
-            {2003, Integer.MAX_VALUE, 1}, {2003, 1, Integer.MAX_VALUE}, {Integer.MAX_VALUE, 1, 1}};
+            {2003, Integer.MAX_VALUE, 1}, {2003, 1, Integer.MAX_VALUE}, {Integer.MAX_VALUE, 1, 1}, {11761240, 1, 1}};
         for (int[] w : wrong) {
             Check.fails("dayOf " + w[0] + " " + w[1] + " " + w[2], IllegalArgumentException.class,
                     () -> x.dayOf(w[0], w[1], w[2]));

@@ -109,8 +109,9 @@ public final class FaceTests {
 
     private static void source() throws IOException {
         String text = Files.readString(Path.of("src/main/java/Termreckonry.java"), StandardCharsets.US_ASCII);
-        for (String word : new String[] {"package ", "catch", "finally", "synchronized", "assert ", "->", "::",
-            "System.", "String ", "java.util.Random", "static {"}) {
+        for (String word : new String[] {"package ", "finally", "synchronized", "assert ", "->", "::", "static {",
+            "Throwable", "NullPointerException", "ArrayIndexOutOf", "ClassCastException", "NegativeArraySize",
+            "ArrayStoreException", "Exact("}) {
             Check.is("no " + word + " in the file", false, () -> text.contains(word));
         }
         Check.is("one import", text.indexOf("import "), () -> text.lastIndexOf("import "));

@@ -60,6 +60,11 @@ public final class StateTests {
         state(x, 0, 19999, 'l');
         x.quash(3);
         state(x, 0, 1004, 'o');
+        x.warrant(1, 'd', 0, 0, 0, 0, 2, -1);
+        x.atLarge(1, 0, 1);
+        state(x, 1, 0, 'a');
+        state(x, 1, 2, 'p');
+        state(x, 1, 3, 'o');
     }
 
     private static void wrongDays() {
