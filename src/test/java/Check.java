@@ -6,10 +6,20 @@ final class Check {
         Object get();
     }
 
+    private static String about = "";
     private static int checks = 0;
     private static int wrong = 0;
 
     private Check() {
+    }
+
+    /** What stands ahead of each line that is printed from now on. */
+    static void about(String words) {
+        about = words;
+    }
+
+    static int checks() {
+        return checks;
     }
 
     static void is(String what, Object due, Call call) {
@@ -17,7 +27,7 @@ final class Check {
         Object got = outcome(call);
         if (!Objects.equals(due, got)) {
             wrong++;
-            System.out.println(what + " answered " + got + ", due is " + due);
+            System.out.println(about + what + " answered " + got + ", due is " + due);
         }
     }
 
