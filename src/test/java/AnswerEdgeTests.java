@@ -353,6 +353,11 @@ public final class AnswerEdgeTests {
             Check.is("and one on licence", 2, () -> x.tooLong(0, 20000));
             x.held(0, 200, 201);
             Check.is("and one behind it", 3, () -> x.tooLong(0, 20000));
+            x.person();
+            x.held(1, 99, 201);
+            Check.is("another person, who has never been due", 102, () -> x.tooLong(1, 20000));
+            x.quash(0);
+            Check.is("quashed: all that was held", 5, () -> x.tooLong(0, 20000));
         });
         Sentence.of(27, "Throws `IndexOutOfBoundsException` if there is no such person",
                 () -> noSuchPerson((x, n) -> x.tooLong(n, 0)));
@@ -377,6 +382,15 @@ public final class AnswerEdgeTests {
             Check.is("and the one recalled", 3, () -> x.tooShort(0, 20000));
             x.atLarge(0, 199, 200);
             Check.is("who is at large on it", 2, () -> x.tooShort(0, 20000));
+            x.person();
+            Check.is("another person, who has never been due", 0, () -> x.tooShort(1, 20000));
+            x.quash(0);
+            Check.is("quashed", 0, () -> x.tooShort(0, 20000));
+            x.warrant(1, 'd', 0, 0, 0, 0, 70, -1);
+            x.atLarge(1, 0, 1);
+            x.atLarge(1, 64, 65);
+            Check.is("at large on the first day", 70, () -> x.tooShort(1, 20000));
+            Check.is("the first person still owes nothing", 0, () -> x.tooShort(0, 20000));
         });
         Sentence.of(28, "Throws `IndexOutOfBoundsException` if there is no such person",
                 () -> noSuchPerson((x, n) -> x.tooShort(n, 0)));
@@ -417,6 +431,8 @@ public final class AnswerEdgeTests {
             Check.is("it runs", 28L, x::owed);
             x.quash(2);
             Check.is("quashed", 15L, x::owed);
+            x.warrant(0, 'd', 0, 19999, 0, 0, 17, -1);
+            Check.is("one that begins on the last day", 32L, x::owed);
         });
         Sentence.of(30, "Returns the sum.", () -> {
             Termreckonry x = Edge.persons(6);
@@ -479,6 +495,8 @@ public final class AnswerEdgeTests {
             Check.is("5 / 4: one suspended, one that never begins", 1.25, x::meanNeeded);
             x.quash(4);
             Check.is("5 / 4: one quashed, and one begins by that", 1.25, x::meanNeeded);
+            x.warrant(0, 'd', 0, 19999, 0, 0, 6, -1);
+            Check.is("11 / 5: one that begins on the last day", 2.2, x::meanNeeded);
         });
         Sentence.of(32, "Throws `ArithmeticException` if there are none", () -> {
             Check.fails("no person", Edge.ARITHMETIC, () -> new Termreckonry().meanNeeded());

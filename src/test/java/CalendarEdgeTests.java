@@ -59,12 +59,14 @@ public final class CalendarEdgeTests {
             Termreckonry x = new Termreckonry();
             int[][] none = {{2001, 2, 29}, {2000, 2, 30}, {2004, 2, 30}, {2003, 4, 31}, {2003, 6, 31}, {2003, 9, 31},
                 {2003, 11, 31}, {2003, 1, 32}, {2003, 12, 32}, {2003, 2, 31}, {2003, 5, 0}, {2003, 5, -1},
-                {2054, 10, 4}, {2054, 10, 31}, {2054, 11, 1}, {2054, 12, 31}, {2055, 1, 1}, {1999, 12, 31}};
+                {2054, 10, 4}, {2054, 10, 31}, {2054, 11, 1}, {2054, 12, 31}, {2055, 1, 1}, {1999, 12, 31},
+                // years so late or so early that the number of days wraps around into the range
+                {11761240, 1, 1}, {1622774545, 1, 1}, {-11757221, 1, 1}, {-2140176225, 1, 1}};
             for (int[] d : none) {
                 Check.fails(d[0] + " " + d[1] + " " + d[2], Edge.ARGUMENT, () -> x.dayOf(d[0], d[1], d[2]));
             }
             Check.is("the last one", 19999, () -> x.dayOf(2054, 10, 3));
-            Check.is("a leap day", 19782, () -> x.dayOf(2054, 2, 28));
+            Check.is("the last of February", 19782, () -> x.dayOf(2054, 2, 28));
         });
     }
 

@@ -214,6 +214,14 @@ public final class PersonEdgeTests {
             Check.is("the other person's: none is left", 0, () -> x.activate(6, 5));
             Check.is("one is left", 1, () -> x.activate(0, 5));
             Check.is("none is left", 0, () -> x.activate(3, 5));
+            x.warrant(1, 's', 0, 0, 0, 0, 1, -1);
+            x.warrant(1, 's', 0, 0, 0, 0, 1, -1);
+            x.warrant(1, 's', 0, 0, 0, 0, 1, -1);
+            x.quash(7);
+            x.quash(8);
+            Check.is("two that are quashed do not run still", 2, () -> x.activate(9, 5));
+            Check.is("a quashed one", 1, () -> x.activate(8, 5));
+            Check.fails("it counts for nothing all the same", Edge.ELEMENT, () -> x.begins(8));
             Termreckonry full = Edge.persons(1);
             for (int n = 0; n < 24; n++) {
                 full.warrant(0, 's', 0, 0, 0, 0, 1, -1);
@@ -397,6 +405,14 @@ public final class PersonEdgeTests {
                 int number = n;
                 Check.is("left of " + n, 0, () -> x.giveBack(number, 1 + number));
             }
+            Termreckonry y = Edge.one('f', 0, 9999);
+            for (int n = 0; n < 30; n++) {
+                y.add(0, 3000 - 100 * n, n + 1);
+            }
+            Check.is("30 for one person", 5000 + 465, () -> y.needed(0));
+            y.giveBack(29, 30);
+            y.giveBack(0, 1);
+            Check.is("without the first and the last", 5000 + 434, () -> y.needed(0));
         });
     }
 
@@ -601,6 +617,16 @@ public final class PersonEdgeTests {
             Check.is("the other", 160, () -> x.letGo(0, 180));
             Edge.states(x, 0, 179, "rl");
             Check.is("both went on ahead of that: the first again", 170, () -> x.letGo(0, 175));
+            Termreckonry y = Edge.onLicenceForEver();
+            for (int n = 0; n < 20; n++) {
+                y.recall(0, 500 - 10 * n, 's');
+            }
+            for (int n = 0; n < 20; n++) {
+                int since = 500 - 10 * n;
+                Check.is("the next of 20", since, () -> y.letGo(0, 600));
+            }
+            Edge.states(y, 0, 599, "rl");
+            Check.fails("all of 20", Edge.UNSUPPORTED, () -> y.letGo(0, 600));
             Check.is("only the other goes on", 160, () -> x.letGo(0, 169));
             Edge.states(x, 0, 168, "rl");
             Check.is("nor this one then", 'r', () -> x.stateOn(0, 170));

@@ -186,6 +186,11 @@ final class TermsOfStates {
             Edge.figures(x, 0, 100, 10, 116, 136);
             x.atLarge(0, 116, 20000);
             Edge.figures(x, 0, 100, 10, 116, 136);
+            Termreckonry z = Edge.one('f', 0, 20);
+            z.atLarge(0, 0, 1);
+            Edge.figures(z, 0, 0, 10, 11, 21);
+            z.atLarge(0, 12, 30);
+            Edge.figures(z, 0, 0, 10, 11, 21);
             Termreckonry y = Edge.one('f', 19990, 12);
             Edge.figures(y, 0, 19990, 6, 19996, 20002);
             Edge.states(y, 0, 19995, "pllll");
@@ -237,6 +242,10 @@ final class TermsOfStates {
             x.law('o', 0, 1, false);
             Edge.states(x, 0, 129, "po");
             Check.fails("no end", Edge.ELEMENT, () -> x.end(0));
+            Termreckonry y = Edge.one('d', 0, 1);
+            y.count(0, 1, false);
+            Edge.figures(y, 0, 0, 0, 0, Edge.NONE);
+            Edge.states(y, 0, 0, "oo");
         });
     }
 

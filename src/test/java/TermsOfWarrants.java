@@ -154,6 +154,13 @@ final class TermsOfWarrants {
             x.law('p', 19999, 7, false);
             law(x, 0, 0);
             law(x, 1, 1);
+            x.law('p', 10000, 6, false);
+            x.warrant(0, 's', 0, 9999, 0, 0, 8, -1);
+            x.activate(2, 10000);
+            law(x, 2, 0);
+            x.law('p', 10000, 5, false);
+            law(x, 2, 0);
+            law(x, 1, 3);
         });
         says("by the day of the offence 'o' or of the passing 'p' of a warrant", () -> {
             Termreckonry x = Edge.persons(1);
@@ -221,6 +228,18 @@ final class TermsOfWarrants {
             Edge.figures(x, 0, 0, 4, 4, Edge.NONE);
             Edge.figures(x, 23, 23, 4, 27, Edge.NONE);
             Check.is("all of them", 24, x::warrants);
+            Termreckonry y = Edge.one('d', 100, 1);
+            for (int n = 1; n < 24; n++) {
+                y.warrant(0, 'd', 0, 0, 0, 0, n + 1, n - 1);
+            }
+            Check.is("all of them, one behind another", 300L, y::owed);
+            Edge.figures(y, 23, 376, 24, 400, Edge.NONE);
+            Check.is("the last one keeps", 23, () -> y.keeper(0, 399));
+            Check.is("the one ahead of it keeps", 22, () -> y.keeper(0, 375));
+            Edge.states(y, 0, 399, "po");
+            y.quash(0);
+            Edge.figures(y, 1, 0, 2, 2, Edge.NONE);
+            Edge.figures(y, 23, 275, 24, 299, Edge.NONE);
         });
         says("each for one of at most 6 persons", () -> {
             Termreckonry x = Edge.persons(6);
@@ -316,6 +335,21 @@ final class TermsOfWarrants {
             x.quash(0);
             Check.is("behind one that counts no more", 119, () -> x.begins(1));
             Check.is("made to run behind that", 119, () -> x.begins(4));
+            Termreckonry y = Edge.onLicence();
+            y.warrant(0, 'f', 0, 100, 0, 0, 10, 0);
+            y.warrant(0, 'f', 0, 0, 0, 0, 10, 1);
+            Edge.figures(y, 2, 155, 5, 160, 165);
+            Edge.states(y, 0, 99, "op");
+            Edge.states(y, 0, 149, "ppppppppppplll");
+            Termreckonry z = Edge.one('d', 0, 1);
+            z.count(0, 1, false);
+            z.warrant(0, 'd', 0, 0, 0, 0, 1, 0);
+            Edge.figures(z, 1, 0, 1, 1, Edge.NONE);
+            Edge.states(z, 0, 0, "po");
+            z.warrant(0, 'd', 0, 19998, 0, 0, 1, -1);
+            z.warrant(0, 'd', 0, 0, 0, 0, 1, 2);
+            Edge.figures(z, 3, 19999, 1, Edge.NONE, Edge.NONE);
+            Edge.states(z, 0, 19997, "opp");
         });
         says("and never, if there is no release by that one", () -> {
             Termreckonry x = Edge.one('d', 19990, 10);
@@ -324,6 +358,7 @@ final class TermsOfWarrants {
             Edge.figures(x, 0, 19990, 10, Edge.NONE, Edge.NONE);
             Edge.figures(x, 1, Edge.NONE, Edge.NONE, Edge.NONE, Edge.NONE);
             Edge.figures(x, 2, Edge.NONE, Edge.NONE, Edge.NONE, Edge.NONE);
+            Edge.states(x, 0, 0, "oo");
             Edge.states(x, 0, 19989, "op");
             x.count(0, 1, false);
             Edge.figures(x, 1, 19999, 1, Edge.NONE, Edge.NONE);
@@ -346,6 +381,8 @@ final class TermsOfWarrants {
             x.add(0, 120, 5);
             Edge.figures(x, 0, Edge.NONE, Edge.NONE, Edge.NONE, Edge.NONE);
             Check.is("owed without it", 10L, x::owed);
+            Edge.states(x, 0, 119, "opppppo");
+            Edge.states(x, 0, 299, "op");
         });
     }
 
@@ -451,6 +488,7 @@ final class TermsOfWarrants {
             x.approve(2, 0);
             x.warrant(1, 'f', 0, 100, 0, 0, 100, -1);
             x.add(0, 110, 7);
+            Edge.states(x, 1, 149, "pl");
             int[] due = {57, 57, 100, 100, Edge.NONE, 57, 50};
             for (int w = 0; w < due.length; w++) {
                 int release = due[w] == Edge.NONE ? Edge.NONE : 100 + due[w];
@@ -477,6 +515,7 @@ final class TermsOfWarrants {
             Termreckonry y = Edge.one('f', 0, 10);
             y.add(0, 0, 1);
             Check.is("on the day 0", 6, () -> y.needed(0));
+            Edge.states(y, 0, 5, "pl");
             Termreckonry z = Edge.one('f', 19999, 10);
             z.add(0, 19999, 1);
             Check.is("on the day 19999", 6, () -> z.needed(0));
@@ -503,6 +542,7 @@ final class TermsOfWarrants {
                 Termreckonry x = Edge.onLicence();
                 x.add(0, day, 5);
                 Check.is("added on " + day, day == 149 ? 55 : 50, () -> x.needed(0));
+                Edge.states(x, 0, 149, day == 149 ? "ppppppl" : "plllll");
             }
             Termreckonry x = Edge.onLicence();
             x.add(0, 160, 9);
@@ -512,6 +552,7 @@ final class TermsOfWarrants {
             Check.is("now it is 155: not later than the next ones", 55, () -> x.needed(0));
             x.add(0, 149, 1);
             Check.is("156, 166, 175: told last, but of an earlier day", 75, () -> x.needed(0));
+            Edge.states(x, 0, 174, "pl");
             Termreckonry y = Edge.onLicence();
             y.add(0, 149, 1);
             y.add(0, 150, 1);
@@ -542,12 +583,15 @@ final class TermsOfWarrants {
             Termreckonry x = Edge.onLicence();
             x.add(0, 110, 49);
             Edge.figures(x, 0, 100, 99, 199, 200);
+            Edge.states(x, 0, 198, "plo");
             x.add(0, 110, 1);
             Edge.figures(x, 0, 100, 100, 200, Edge.NONE);
             x.add(0, 110, 200);
             Edge.figures(x, 0, 100, 100, 200, Edge.NONE);
+            Edge.states(x, 0, 199, "po");
             x.count(0, 10, false);
             Edge.figures(x, 0, 100, 90, 190, Edge.NONE);
+            Edge.states(x, 0, 189, "po");
             Termreckonry y = Edge.one('f', 100, 9);
             y.law('o', 0, 8, true);
             y.count(0, 9, false);
