@@ -186,6 +186,13 @@ final class TermsOfStates {
             Edge.figures(x, 0, 100, 10, 116, 136);
             x.atLarge(0, 116, 20000);
             Edge.figures(x, 0, 100, 10, 116, 136);
+            Termreckonry late = Edge.onLicence();
+            late.atLarge(0, 152, 154);
+            Edge.figures(late, 0, 100, 50, 150, 200);
+            late.add(0, 149, 5);
+            Edge.figures(late, 0, 100, 55, 157, 202);
+            Edge.states(late, 0, 156, "pl");
+            Edge.states(late, 0, 201, "lo");
             Termreckonry z = Edge.one('f', 0, 20);
             z.atLarge(0, 0, 1);
             Edge.figures(z, 0, 0, 10, 11, 21);
